@@ -343,8 +343,18 @@ public final class MapSongs {
 
     public long digest() {
         long d = DIGEST_START;
-        d = digestOfWay(d);
-        d = digestOfSong(d);
+        d = digested(d, legs());
+        d = digested(d, step());
+        d = digested(d, endX());
+        d = digested(d, endY());
+        d = digested(d, stepsHome());
+        d = digested(d, returns());
+        d = digested(d, beats());
+        d = digested(d, folded());
+        d = digested(d, range());
+        d = digested(d, ambiguous());
+        d = digested(d, ways());
+        d = digested(d, bestStep());
         for (int leg = 0; leg < legCount; leg++) {
             d = digestOfLeg(d, leg);
         }
@@ -519,28 +529,6 @@ public final class MapSongs {
 
     private static long digested(long d, long x) {
         return d * DIGEST_FACTOR + x;
-    }
-
-    private long digestOfWay(long start) {
-        long d = start;
-        d = digested(d, legs());
-        d = digested(d, step());
-        d = digested(d, endX());
-        d = digested(d, endY());
-        d = digested(d, stepsHome());
-        d = digested(d, returns());
-        return d;
-    }
-
-    private long digestOfSong(long start) {
-        long d = start;
-        d = digested(d, beats());
-        d = digested(d, folded());
-        d = digested(d, range());
-        d = digested(d, ambiguous());
-        d = digested(d, ways());
-        d = digested(d, bestStep());
-        return d;
     }
 
     private long digestOfLeg(long start, int leg) {

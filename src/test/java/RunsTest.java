@@ -2,7 +2,7 @@ import java.util.Random;
 
 /** Long runs of calls, always the same ones, whose every outcome is that of NaiveSongs. */
 public final class RunsTest {
-    private static final int RUNS = 300;
+    private static final int RUNS = 150;
     private static final int CALLS = 500;
     private static final String INDEX = "throws java.lang.IndexOutOfBoundsException";
     private static final String ARGUMENT = "throws java.lang.IllegalArgumentException";
