@@ -7,8 +7,14 @@ final class Check {
 
     private static int calls = 0;
     private static int wrong = 0;
+    private static String about = "";
 
     private Check() {
+    }
+
+    /** What the checks from now on are about: told with each fault. */
+    static void about(String heading) {
+        about = heading + ": ";
     }
 
     static void due(String what, long want, long got) {
@@ -55,7 +61,7 @@ final class Check {
     static void tell(String fault) {
         wrong++;
         if (wrong <= 50) {
-            System.out.println(fault);
+            System.out.println(about + fault);
         }
     }
 
